@@ -187,6 +187,11 @@ public final class PromiseRuns {
         due("8 wiped", x.count(5), 0);
         due("8 fault", x.fault(), 0);
         due("8 again", x.wipe(), 0);
+        rule(x, "m5");
+        due("8 a good rule", x.begins(), 5);
+        due("8 wipe", x.wipe(), 2);
+        due("8 nothing is left of it", x.begins(), 60);
+        due("8 nothing is left of it", x.fault(), 0);
         rule(x, "k7|k7|k7|k7|k7|k7|k7|k7|k7|k7|k7|k7|m31");
         due("7 the last of many", x.begins(), 31);
         rule(x, "m9|m8|m7|m6|m5|m4|m3|m2|m1|m1&t|k0|k1|m0");
@@ -433,6 +438,27 @@ public final class PromiseRuns {
         due("16 four plain ones", z.rests(30, 0, 0), -4);
         due("16 bad ahead of full", z.rests(30, 0, -1), -2);
         due("16 nobody: one way, and it rests", hall("t", 0).rests(30, -1, -1), 1);
+        HallMinutes u = hall("m20", 0, 1, 1);
+        due("16 a fine grid", u.rests(5, -1, -1), 1);
+        due("16 a fine grid", u.rests(5, 0, 1), 20);
+        due("16 a coarse one behind it", u.rests(30, 0, 1), 30);
+        rule(u, "m0");
+        u.cost(0, 2, 0);
+        due("16 the first may stay away", u.rests(30, -1, -1), 2);
+        due("16 the first stays away", u.rests(30, 1, 0), 60);
+        due("16 and the second comes at 0", u.rests(30, 1, 1), 0);
+        HallMinutes far = new HallMinutes();
+        for (int c = 0; c < 5; c++) {
+            far.comer(1, 0, 0);
+        }
+        for (int c = 5; c < 8; c++) {
+            far.comer(0, 3, 0);
+            far.cost(c, 2, 0);
+        }
+        due("16 the very last of all ways", far.rests(5, -1, -1), 1);
+        due("16 the very last of all ways", far.rests(5, 0, 7), 60);
+        due("17 good is the very last of all ways", far.lost(5, -1), 5 * 60);
+        due("17 three plain ones", far.lost(5, 0), 0);
     }
 
     private static void lost() {
@@ -449,6 +475,9 @@ public final class PromiseRuns {
         due("17 step", x.lost(31, 0), -10000);
         due("17 i", x.lost(30, -2), -10000);
         due("17 aims are as they were", x.count(6), 7);
+        x.set(0, 0);
+        x.set(2, 0);
+        due("17 good lies ahead of that rest", x.lost(30, 1), 30);
         HallMinutes y = hall("t", 0, 1, 1, 1, 1);
         due("17 full", y.lost(30, -1), -10001);
         due("17 full ahead of not", y.lost(30, 9999), -10001);
@@ -488,6 +517,9 @@ public final class PromiseRuns {
         due("19 none", never.round(1), -1);
         due("19 what", never.round(2), -2);
         due("19 what", never.round(-1), -2);
+        HallMinutes alone = hall("m20", 0, 5);
+        due("19 only the first changes", alone.round(0), 1);
+        due("19 only the first changes", alone.round(1), 1);
         due("19 aims are as they were", never.count(6), 0);
     }
 
@@ -496,6 +528,7 @@ public final class PromiseRuns {
         due("20 the least of like ones", x.moved(10), 0);
         due("20 just so", x.moved(30), 0);
         due("20 later", x.moved(45), 45);
+        due("20 at once", x.moved(0), 0);
         due("20 last", x.moved(59), 59);
         due("20 below", x.moved(-1), -2);
         due("20 above", x.moved(60), -2);
@@ -548,6 +581,9 @@ public final class PromiseRuns {
         due("22 only the first", x.keys(0), 1);
         due("22 waited for", x.keys(1), 2);
         x.aim(2, 10);
+        x.aim(0, 10);
+        due("22 the first is waited for, too", x.keys(1), 7);
+        x.aim(0, 5);
         due("22 two waited for", x.keys(1), 6);
         x.aim(0, 60);
         due("22 it does not begin", x.keys(0), 0);
@@ -569,6 +605,16 @@ public final class PromiseRuns {
         rule(y, "m3");
         due("22 nobody", y.keys(0), 0);
         due("22 nobody", y.keys(1), 0);
+        HallMinutes z = new HallMinutes();
+        z.comer(0, 5, 0);
+        z.comer(2, 2, 1);
+        z.comer(2, 3, 1);
+        rule(z, "k2");
+        due("22 one of two looking ones", z.keys(0), 5);
+        HallMinutes all = hall("k7", 0, 1, 2, 3, 4, 5, 6, 7, 8);
+        due("22 the last of eight", all.keys(0), 128);
+        due("22 it is there again behind that", all.climb(false, -1), 0);
+        due("22 it is there again behind that", all.odds(8, 0), 1);
     }
 
     private static void guests() {
@@ -618,6 +664,8 @@ public final class PromiseRuns {
         x.aim(0, 60);
         due("24 60 stays", x.odds(59, 0), 0);
         due("24 60 stays", x.odds(59, 1), 1);
+        rule(x, "m0");
+        due("24 at once", x.odds(0, 0), 1);
         due("24 minute", x.odds(60, 0), BAD_LONG);
         due("24 minute", x.odds(-1, 0), BAD_LONG);
         due("24 what", x.odds(0, 2), BAD_LONG);
@@ -666,6 +714,12 @@ public final class PromiseRuns {
         due("25 no such", x.mean(-1, 0), BAD_LONG);
         due("25 what", x.mean(0, 2), BAD_LONG);
         due("25 what", x.mean(0, -1), BAD_LONG);
+        HallMinutes all = hall("m2", 0, 1, 1, 1, 1, 1, 1, 1, 1);
+        for (int c = 0; c < 8; c++) {
+            all.cost(c, 3, 15);
+        }
+        due("25 all eight by lot", all.mean(7, 0), 61);
+        due("25 all eight by lot", all.mean(7, 1), 16);
     }
 
     private static void sure() {
@@ -681,6 +735,9 @@ public final class PromiseRuns {
         x.cost(0, 2, 1);
         due("26 who minds all but missing", x.sure(0), 60);
         due("26 aims are as they were", x.count(6), 1);
+        x.cost(0, 2, 100);
+        rule(x, "m0");
+        due("26 at once", x.sure(0), 0);
         due("26 punctual", x.sure(1), -2);
         due("26 no such", x.sure(2), -2);
         due("26 no such", x.sure(-1), -2);
@@ -712,6 +769,10 @@ public final class PromiseRuns {
         due("28 finding", x.count(8), 1);
         x.sheet(3, 2, 64);
         due("28 a new one is empty", x.get(3, 2, 63), 0);
+        x.put(3, 2, 0, 9);
+        x.sheet(3, 2, 1);
+        due("27 the first item, too", x.get(3, 2, 0), 0);
+        due("27 no more items than asked for", x.put(3, 2, 1, 0), -12);
     }
 
     private static void putAndGet() {
@@ -853,6 +914,11 @@ public final class PromiseRuns {
         y.aim(1, 30);
         due("34 by 30 with odds", y.digest(), told(2, 3, 3, 1, 2, 5, 40, 12, -1, 30, 10, 20 - 2 + 1, 30, 0 - 2 + 1, 0, 0, 59, 30, 30, 3, 2, 1));
         due("34 digests change nothing", y.digest(), told(2, 3, 3, 1, 2, 5, 40, 12, -1, 30, 10, 20 - 2 + 1, 30, 0 - 2 + 1, 0, 0, 59, 30, 30, 3, 2, 1));
+        y.aim(1, 31);
+        due("34 by 31 is not by 30", y.digest(), told(2, 3, 3, 1, 2, 5, 41, 12, -1, 31, 10, 21 - 2 + 1, 31, 0 - 2 + 1, 0, 0, 59, 31, 31, 3, 2, 0));
+        // Up they leap for ever; down both stay at 59, and who looks for them is too late.
+        HallMinutes z = leaping("k0&k1", 0);
+        due("34 leaping", z.digest(), told(3, 6, 0, 0, 0, 5, 0, 0, -1, 1, 1, 0, 0, 1, 0, 1, 1, -1, 60, 2, 3, 3, 1, 1));
     }
 
     public static void main(String[] args) {
