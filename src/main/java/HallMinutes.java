@@ -550,6 +550,7 @@ public final class HallMinutes {
      */
     private static final class Rule {
         int length;
+        /** 0 for a new object, whose text is empty. */
         int faultAt;
         private final int[] text = new int[RULE_BYTES];
         private int at;
@@ -1090,7 +1091,10 @@ public final class HallMinutes {
         }
     }
 
-    /** Sums over all ways of ROADS, each as many times as it has sixteenths of sixteenths .. of 16 by 16 .. */
+    /**
+     * Sums over all ways of ROADS, each way as often as it comes among ALL. Who has no LOT, or is not
+     * there at all, comes in time sixteen times of sixteen, so that ALL is the same for any number of COMERS.
+     */
     private static final class Roads {
         private static final int SIXTEENTHS = 16;
         private static final long ALL = 1L << 4 * COMERS;
