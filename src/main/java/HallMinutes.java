@@ -1069,16 +1069,17 @@ public final class HallMinutes {
             for (int week = 0; week <= upTo && week <= LAST_WEEK; week++) {
                 if (later > 0 && later <= week) {
                     begin[week] = begin[week - later];
-                } else {
-                    comesTo(week);
+                    continue;
                 }
+                if (week > 0) {
+                    evening.goesToNextWeek();
+                }
+                keep(week);
             }
         }
 
-        private void comesTo(int week) {
-            if (week > 0) {
-                evening.goesToNextWeek();
-            }
+        /** What the evening is in a WEEK, and whether it was so before. */
+        private void keep(int week) {
             aims[week] = evening.aimsAsOne();
             begin[week] = evening.reckon();
             for (int before = 0; before < week; before++) {

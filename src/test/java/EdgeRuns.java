@@ -11,6 +11,7 @@ public final class EdgeRuns {
         EdgesOfRoads.run();
         EdgesOfSheets.run();
         EdgesOfRefusals.run();
+        EdgesOfQuestions.run();
         int unlike = Sentences.unlike();
         System.out.println(Edges.SENTENCES.size() + " sentences, " + unlike + " unlike the document; " + Edges.asked + " answers asked for, "
             + Edges.wrong + " wrong");

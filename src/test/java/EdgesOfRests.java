@@ -24,7 +24,9 @@ final class EdgesOfRests {
         p16Steps();
         p16Grid();
         p16ThreeAtMost();
+        p16WhoIsOnTheGrid();
         p16AnotherMinuteOfTheGrid();
+        p16OneGridAfterAnother();
         p16TheIth();
         p16HowMany();
         p16NoneSuch();
@@ -32,6 +34,7 @@ final class EdgesOfRests {
         p16BadAheadOfFull();
         p16AllWays();
         p17Good();
+        p17GoodOfAllWays();
         p17Lost();
         p17GoodOrLost();
         p17Bad();
@@ -210,6 +213,14 @@ final class EdgesOfRests {
         Edges.due(none, "climb(false, -1)", Edges.NONE);
         Edges.due(none, "climb(false, 1)", Edges.NONE);
         Edges.due(none, "climb(false, 2)", Edges.NONE);
+        // Who is not PLAIN changes nothing by itself, and takes no round more.
+        for (String other : new String[] {"comer(1, 0, 0)", "comer(2, 30, 7)"}) {
+            HallMinutes withOther = Edges.made(other, "comer(2, 1, 1)", "comer(0, 0, 0)", "comer(0, 0, 0)", "set(0, 37)", "rule t|k1");
+            Edges.due(withOther, "climb(false, -1)", 37);
+            Edges.due(withOther, "climb(false, 3)", 37);
+            Edges.also(withOther, "set(0, 38)");
+            Edges.due(withOther, "climb(false, -1)", Edges.NONE);
+        }
     }
 
     private static void p15Down() {
@@ -319,6 +330,35 @@ final class EdgesOfRests {
         Edges.due(x, "rests(30, 99, 7)", Edges.FULL);
         Edges.changesNothing(new String[] {"comer(0, 1, 0)", "comer(0, 2, 0)", "comer(0, 3, 0)", "comer(0, 4, 0)", "rule t"},
             "rests(5, -1, -1)", Edges.FULL);
+    }
+
+    private static void p16WhoIsOnTheGrid() {
+        Edges.at(16, "of all ways that PLAIN COMERS (3 at most: FULL) AIM at MINUTES of the GRID");
+        // One PLAIN COMER among eight, whatever its number: it may come at 30 or miss.
+        for (int comer = 0; comer < 8; comer++) {
+            HallMinutes x = new HallMinutes();
+            for (int i = 0; i < 8; i++) {
+                Edges.also(x, i == comer ? "comer(0, 7, 0)" : "comer(1, 0, 0)");
+            }
+            Edges.also(x, "rule m30", "cost(" + comer + ", 2, 0)");
+            Edges.due(x, "rests(30, -1, -1)", 2);
+            Edges.due(x, "rests(30, 0, " + comer + ")", 30);
+            Edges.due(x, "rests(30, 1, " + comer + ")", 60);
+            Edges.due(x, "lost(30, -1)", 7 * 30);
+        }
+    }
+
+    private static void p16OneGridAfterAnother() {
+        Edges.at(16, "at another MINUTE of the GRID: how many;");
+        // 15 were better than 0 and 30; it is of the GRIDS of 5 and of 15, not of that of 30.
+        HallMinutes x = Edges.hall("m15", 0, 1);
+        int[] steps = {30, 5, 30, 15, 30, 6, 5, 29, 30};
+        int[] many = {2, 1, 2, 1, 2, 2, 1, 1, 2};
+        for (int i = 0; i < steps.length; i++) {
+            Edges.due(x, "rests(" + steps[i] + ", -1, -1)", many[i]);
+        }
+        Edges.due(x, "lost(5, -1)", 0);
+        Edges.due(x, "lost(30, -1)", 15);
     }
 
     private static void p16AnotherMinuteOfTheGrid() {
@@ -443,6 +483,21 @@ final class EdgesOfRests {
         Edges.also(fed, "set(2, 99)");
         Edges.due(fed, "lost(30, -1)", -3 * 99);
         Edges.due(fed, "lost(30, 0)", 0);
+    }
+
+    private static void p17GoodOfAllWays() {
+        Edges.at(17, "together of all ways.");
+        // It never begins: all away is best, the last of the 2197 ways; who comes earlier than that pays.
+        HallMinutes away = Edges.hall("k7", 0, 1, 1, 1);
+        // It begins with the first to come, and missing is dear: all at 0 is best, the first of the ways.
+        HallMinutes early = Edges.hall("m0", 0, 1, 1, 1);
+        for (int comer = 0; comer < 3; comer++) {
+            Edges.also(away, "cost(" + comer + ", 2, 0)");
+        }
+        for (int g = 5; g <= 30; g += 5) {
+            Edges.due(away, "lost(" + g + ", -1)", 0);
+            Edges.due(early, "lost(" + g + ", -1)", 0);
+        }
     }
 
     private static void p17Lost() {

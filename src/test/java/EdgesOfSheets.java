@@ -39,6 +39,7 @@ final class EdgesOfSheets {
         p34Row();
         p34Wraps();
         p34Refusals();
+        p34OddsByThirty();
     }
 
     private static void p27Sheets() {
@@ -519,5 +520,13 @@ final class EdgesOfSheets {
         // Up it does not come to rest: NONE is one of the numbers.
         Edges.due(Edges.leaping("k0&k1", 0), "digest()",
             Edges.digestOf(3, 6, 0, 0, 0, 5, 0, 0, -1, 1, 1, 0, 0, 1, 0, 1, 1, -1, 60, 2, 3, 3, 1, 1));
+    }
+
+    private static void p34OddsByThirty() {
+        Edges.at(34, "odds(30, 0); as longs that wrap.");
+        // At 29 they are 0 by 1, at 30 they are 3 by 4, at 31 they are 1 by 1.
+        HallMinutes x = Edges.hall("k0", 0, 30);
+        Edges.also(x, "cost(0, 3, 4)", "cost(0, 4, 1)");
+        Edges.due(x, "digest()", Edges.digestOf(1, 1, 0, 0, 0, 2, 30, 4, -1, 30, 30, 0, -1, 0, 59, 0, 0, 1, 1, 3));
     }
 }

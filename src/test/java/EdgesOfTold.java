@@ -7,6 +7,7 @@ final class EdgesOfTold {
         p20AsNearAsCanBe();
         p20OfLikeOnesTheLeast();
         p20NoRestOrNoBeginning();
+        p20ToldIsAMinute();
         p20Bad();
         p21FromNoughtToForty();
         p21ByTold();
@@ -14,6 +15,7 @@ final class EdgesOfTold {
         p21LeastFood();
         p21LeastFine();
         p22Key();
+        p22ItComesAtSixty();
         p22ItDoesWithIt();
         p22WaitedFor();
         p22Bad();
@@ -72,6 +74,20 @@ final class EdgesOfTold {
         HallMinutes faulty = Edges.hall("t&", 5, 5);
         Edges.due(faulty, "moved(0)", 0);
         Edges.due(faulty, "moved(59)", 0);
+    }
+
+    private static void p20ToldIsAMinute() {
+        Edges.at(20, "TOLD is a MINUTE");
+        // Whatever is TOLD, it begins at 59, with FOOD for who comes just then. Were 60 told, it would begin at 30, when
+        // the other comes: but 60 cannot be TOLD.
+        HallMinutes x = Edges.made("comer(0, 1, 0)", "comer(2, 30, 1)", "set(2, 40)", "rule t&m59|k1");
+        for (int told = 0; told < 60; told++) {
+            Edges.also(x, "set(0, " + told + ")");
+            Edges.due(x, "climb(false, -1)", 59);
+        }
+        Edges.due(x, "moved(30)", 0);
+        Edges.due(x, "moved(0)", 0);
+        Edges.due(x, "set(0, 60)", Edges.BAD);
     }
 
     private static void p20Bad() {
@@ -186,6 +202,28 @@ final class EdgesOfTold {
         Edges.also(eight, "rule n7");
         Edges.due(eight, "keys(0)", 0);
         Edges.onlyAsks(Edges.busy(), "keys(0)", "keys(1)");
+    }
+
+    private static void p22ItComesAtSixty() {
+        Edges.at(22, "(it comes at 60, whatever it is)");
+        // PLAIN, PUNCTUAL or LOOKING, the last of its kind or not.
+        String[] making = {"comer(0, 5, 0)", "comer(1, 0, 0)", "comer(2, 2, 1)", "comer(2, 3, 1)", "comer(2, 4, 1)", "set(0, 7)", "rule k0"};
+        HallMinutes x = Edges.made(making);
+        int[] others = {0, 1, 2, 3, 4};
+        for (int comer : others) {
+            Edges.also(x, "rule k" + comer);
+            Edges.due(x, "keys(0)", 1 << comer);
+        }
+        Edges.also(x, "rule k2&k4");
+        Edges.due(x, "keys(0)", 4 + 16);
+        // It comes at 60 for no longer than this is asked.
+        String[] eight = {"comer(0, 1, 0)", "comer(0, 2, 0)", "comer(1, 0, 0)", "comer(2, 1, 1)", "comer(0, 3, 0)", "comer(0, 4, 0)",
+            "comer(0, 5, 0)", "comer(0, 6, 0)", "set(0, 9)", "rule n8"};
+        Edges.onlyAsks(eight, "keys(0)", "keys(1)");
+        HallMinutes y = Edges.made(eight);
+        Edges.due(y, "keys(0)", 255);
+        Edges.due(y, "week(0)", 9);
+        Edges.due(y, "odds(9, 0)", 1);
     }
 
     private static void p22ItDoesWithIt() {

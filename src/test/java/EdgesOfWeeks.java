@@ -10,6 +10,7 @@ final class EdgesOfWeeks {
         p18Bad();
         p19TheLeastWeek();
         p19ALaterOneToSixty();
+        p19TheSameAims();
         p19HowManyWeeksLater();
         p19None();
         p19What();
@@ -88,6 +89,27 @@ final class EdgesOfWeeks {
         }
         HallMinutes none = Edges.leaping("k0&k1", 0);
         Edges.due(none, "round(0)", Edges.NONE);
+    }
+
+    private static void p19TheSameAims() {
+        Edges.at(19, "of the same AIMS");
+        // One of eight is elsewhere in WEEK 0, whichever it is: WEEK 1 is not the same.
+        for (int comer = 0; comer < 8; comer++) {
+            HallMinutes x = Edges.hall("m20", 0, 20, 20, 20, 20, 20, 20, 20, 20);
+            Edges.due(x, "round(0)", 0);
+            Edges.also(x, "aim(" + comer + ", 21)");
+            Edges.due(x, "round(0)", 1);
+            Edges.due(x, "round(1)", 1);
+        }
+        // 1 and 0 are other AIMS than 0 and 32, nor are 32 and 0 the same as 0 and 32.
+        HallMinutes y = Edges.hall("m32", 0, 1, 0);
+        Edges.also(y, "cost(0, 0, 0)");
+        Edges.due(y, "round(0)", 1);
+        Edges.also(y, "aim(0, 32)");
+        Edges.due(y, "round(0)", 1);
+        // Like beginnings are not like AIMS.
+        Edges.due(y, "week(0)", 32);
+        Edges.due(y, "week(1)", 32);
     }
 
     private static void p19HowManyWeeksLater() {

@@ -9,7 +9,9 @@ import java.util.ArrayList;
 import java.util.Arrays;
 import java.util.HashSet;
 import java.util.List;
+import java.util.Map;
 import java.util.Set;
+import java.util.TreeMap;
 import java.util.TreeSet;
 import java.util.regex.Matcher;
 import java.util.regex.Pattern;
@@ -153,12 +155,48 @@ public final class LanguageRuns {
         }
     }
 
+    /** Which methods each method calls, by name; two of one name in two classes are taken for one. */
+    private static Map<String, Set<String>> calls(String code) {
+        Map<String, Set<String>> called = new TreeMap<>();
+        String method = "";
+        Matcher word = Pattern.compile("(?m)^(?: {4}| {8})(?!new|return|if|for|while|switch)(?:[\\w\\[\\]]+ )+(\\w+)\\([^;]*?\\) \\{$|\\b([a-z]\\w*)\\(").matcher(code);
+        while (word.find()) {
+            if (word.group(1) != null) {
+                method = word.group(1);
+                called.putIfAbsent(method, new TreeSet<>());
+            } else if (!method.isEmpty()) {
+                called.get(method).add(word.group(2));
+            }
+        }
+        called.values().forEach(each -> each.retainAll(called.keySet()));
+        return called;
+    }
+
+    private static int depth(Map<String, Set<String>> calls, String method, int open) {
+        int deepest = open;
+        for (String next : open > 20 ? new TreeSet<String>() : calls.get(method)) {
+            deepest = Math.max(deepest, depth(calls, next, open + 1));
+        }
+        return deepest;
+    }
+
+    /** The method that was called is counted, too; one that calls itself again would come out deeper than 20. */
+    private static void depths(String code) {
+        Map<String, Set<String>> calls = calls(code);
+        holds(calls.size() > FACE.length && calls.get("settle").contains("callLookers"), "the calls are seen: " + calls);
+        for (String method : calls.keySet()) {
+            int deep = depth(calls, method, 1);
+            holds(deep <= 8, method + " goes eight deep at most, but goes " + deep);
+        }
+    }
+
     public static void main(String[] args) throws Exception {
         String source = new String(Files.readAllBytes(Path.of(SOURCE)), StandardCharsets.UTF_8);
         face();
         words(withoutComments(source));
         makesNothing(withoutComments(source));
         lengths(source);
+        depths(withoutComments(source));
         System.out.println(asked + " rules of the language looked at, " + wrong + " broken");
         if (wrong != 0) {
             System.exit(1);

@@ -64,6 +64,10 @@ public final class RoomRuns {
             sum += askAll(x);
         }
         holds("some 500 calls", made() - before, CALLS_BYTES);
+        // What calls behind the 512th answer is free; but they come to an end, and throw nothing.
+        for (int i = 0; i < 32; i++) {
+            sum += askAll(x);
+        }
         System.out.println("(the answers together: " + sum + ")");
         if (wrong != 0) {
             System.exit(1);
