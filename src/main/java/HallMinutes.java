@@ -31,8 +31,12 @@ public final class HallMinutes {
     private static final int GRID_PLAIN = 3;
     private static final int GRID_WAYS = GRID_MINUTES * GRID_MINUTES * GRID_MINUTES;
 
+    // The library's own names for these do not stand in the list of LANGUAGE.md 4.
+    private static final int LEAST_INT = 1 << 31, MOST_INT = ~LEAST_INT;
+    private static final long LEAST_LONG = 1L << 63, MOST_LONG = ~LEAST_LONG;
+
     private static final int PAY_BAD = -10000, LOST_FULL = -10001, LOST_NOT = -10002;
-    private static final long LONG_BAD = Long.MIN_VALUE - BAD;
+    private static final long LONG_BAD = LEAST_LONG - BAD;
 
     private static final int SHEETS = 4, ITEMS = 64, FORMS = 3;
     private static final int BYTES = 0, SHORTS = 1;
@@ -325,7 +329,7 @@ public final class HallMinutes {
         }
         trial.becomes(now);
         int best = 0;
-        long least = Long.MAX_VALUE;
+        long least = MOST_LONG;
         for (int minute = 0; minute <= NEVER; minute++) {
             trial.aim[comer] = minute;
             long price = roads.priceOf(comer);
@@ -376,12 +380,12 @@ public final class HallMinutes {
 
     public int get(int s, int form, int i) {
         if (!isSheet(s) || !isForm(form)) {
-            return Integer.MIN_VALUE;
+            return LEAST_INT;
         }
         int finding = sheets.findingAt(s, form, i);
         if (finding != 0) {
             sheets.finds(finding);
-            return Integer.MIN_VALUE;
+            return LEAST_INT;
         }
         return sheets.item[s][i];
     }
@@ -889,7 +893,7 @@ public final class HallMinutes {
             gather(comer);
             int without = settle(comer, NEVER);
             int best = 0;
-            int least = Integer.MAX_VALUE;
+            int least = MOST_INT;
             for (int minute = 0; minute <= NEVER; minute++) {
                 // Who comes behind the beginning without it changes nothing of that beginning.
                 int start = minute > without ? without : settle(comer, minute);
@@ -1041,7 +1045,7 @@ public final class HallMinutes {
 
         int good() {
             toFirstWay();
-            int least = Integer.MAX_VALUE;
+            int least = MOST_INT;
             boolean more = true;
             for (int way = 0; way < GRID_WAYS && more; way++) {
                 least = Math.min(least, evening.together());
